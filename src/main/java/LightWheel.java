@@ -64,7 +64,8 @@ public final class LightWheel {
         }
         record();
         int number = now.pictureCount;
-        now.pictures[number].renew(width);
+        // Pictures not yet added are as new: none is ever removed but by undo, which restores the whole state.
+        now.pictures[number].width = width;
         now.pictureCount++;
         return number;
     }
@@ -410,16 +411,6 @@ public final class LightWheel {
         int kind = 0;
         final long[] columns = new long[MOST_COLUMNS];
 
-        void renew(int newWidth) {
-            width = newWidth;
-            first = 0;
-            step = 6;
-            kind = 0;
-            for (int column = 0; column < MOST_COLUMNS; column++) {
-                columns[column] = 0L;
-            }
-        }
-
         void copyFrom(Picture other) {
             width = other.width;
             first = other.first;
@@ -522,11 +513,11 @@ public final class LightWheel {
 
         /** The lit colors of an angle if some more ticks pass that do not write there. */
         long litAt(int at, int moreTicks) {
-            int stale = ticks + moreTicks - settings[GLOW];
+            int stale = Math.max(0, ticks + moreTicks - settings[GLOW]);
             long lit = 0L;
             for (int light = 0; light < LIGHTS; light++) {
                 int tick = writtenIn[at * LIGHTS + light];
-                if (tick > 0 && tick > stale) {
+                if (tick > stale) {
                     lit |= written[at] & ((long) COLOR << (light * BITS));
                 }
             }

@@ -17,6 +17,7 @@ public final class BarTest {
         runEnds();
         undo();
         undoRestoresAll();
+        undoRestoresEachThing();
         CHECK.end();
     }
 
@@ -81,6 +82,7 @@ public final class BarTest {
         x.setBroken(1, 10, 1);
         CHECK.due("load", x.run(1), 210);
         CHECK.due("place(5, 0, 2)", x.place(5, 0, 2), LightWheel.NONE);
+        CHECK.due("place(0, 0, 2)", x.place(0, 0, 2), LightWheel.NONE);
         CHECK.due("place(5, 11, 2)", x.place(5, 11, 2), 0);
         CHECK.due("place(365, 0, 2)", x.place(365, 0, 2), 0);
         CHECK.due("place(365, 11, 2)", x.place(365, 11, 2), LightWheel.NONE);
@@ -141,6 +143,7 @@ public final class BarTest {
         CHECK.due("but it is written", x.place(25, 0, 2), 0);
         x.run(71);
         CHECK.due("once around", x.count(1), 20);
+        CHECK.due("the angle 0", x.place(0, 11, 2), 2);
         CHECK.due("dark over lit", x.place(5, 0, 2), 1);
         CHECK.due("lit", x.count(5), 0);
     }
@@ -317,6 +320,57 @@ public final class BarTest {
         CHECK.due("speed", x.count(2), 10);
         CHECK.due("place(30, 0, 2)", x.place(30, 0, 2), LightWheel.NONE);
         CHECK.due("the first two actions stay", x.picture(0, 1), 30);
+    }
+
+    /** Promise 13. */
+    private static void undoRestoresEachThing() {
+        LightWheel x = full(3);
+        x.run(3);
+        x.setPlace(1, 7, 2);
+        x.undo();
+        CHECK.due("first", x.picture(1, 1), 360);
+        CHECK.due("step", x.picture(1, 2), 18);
+        x.setKind(1, 2);
+        x.undo();
+        CHECK.due("kind", x.picture(1, 3), 0);
+        x.paint(1, 19, 11, 6);
+        x.undo();
+        CHECK.due("color", x.color(1, 19, 11), 3);
+        x.addPicture(4);
+        x.undo();
+        CHECK.due("pictures", x.count(0), 2);
+        CHECK.due("picture(2, 0)", x.picture(2, 0), WRONG);
+        for (int what = 0; what < 4; what++) {
+            int before = x.setting(what);
+            x.set(what, 37 % (what == 1 ? 20 : 99));
+            x.undo();
+            CHECK.due("setting(" + what + ")", x.setting(what), before);
+        }
+        x.setBroken(0, 7, 1);
+        x.undo();
+        CHECK.due("broken(0, 7)", x.broken(0, 7), 0);
+        x.paint(0, 0, 0, 7);
+        x.setSecondArm(1);
+        x.set(0, 20);
+        x.run(72);
+        CHECK.due("written anew", x.place(1, 0, 1), 7);
+        CHECK.due("speed", x.count(2), 20);
+        x.undo();
+        CHECK.due("speed", x.count(2), 10);
+        CHECK.due("load", x.count(4), 120);
+        CHECK.due("ticks", x.count(3), 3);
+        CHECK.due("angle", x.count(1), 30);
+        CHECK.due("the color that was written", x.place(1, 0, 1), 3);
+        CHECK.due("and its age", x.place(1, 0, 2), 2);
+        CHECK.due("the whole circle", x.place(719, 11, 2), LightWheel.NONE);
+        CHECK.due("lit", x.count(5), 360);
+        x.undo();
+        x.undo();
+        CHECK.due("second arm", x.count(7), 0);
+        x.set(0, 0);
+        x.undo();
+        CHECK.due("the next tick goes on as if nothing had been", x.run(1), 120);
+        CHECK.due("angle", x.count(1), 40);
     }
 
     /** A wheel with two pictures, half a circle each, that want one color everywhere. */

@@ -62,6 +62,18 @@ public final class LookingTest {
         CHECK.due("count(5): written 1 tick ago", x.count(5), 0);
         x.set(3, 2);
         CHECK.due("count(5): the glow as it is now", x.count(5), 10);
+        LightWheel y = new LightWheel();
+        y.addPicture(1);
+        y.paint(0, 0, 0, 1);
+        y.setPlace(0, 0, 1);
+        y.run(72);
+        CHECK.due("count(5): the angle 0 alone", y.count(5), 1);
+        CHECK.due("count(6): the angle 0 alone", y.count(6), 0);
+        y.set(3, 1);
+        CHECK.due("count(5): written 0 ticks ago, glow 1", y.count(5), 1);
+        CHECK.due("count(6): written 0 ticks ago, glow 1", y.count(6), 0);
+        y.run(1);
+        CHECK.due("count(6): dark again", y.count(6), 1);
     }
 
     /** Promise 15. */

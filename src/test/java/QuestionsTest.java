@@ -7,11 +7,14 @@ public final class QuestionsTest {
     public static void main(String[] args) {
         ticksAround();
         ticksAroundUnderLoad();
+        ticksAroundAtTheEdge();
         gaps();
         gapsUnderLoad();
         bestSpeed();
         bestSpeedOfSeveral();
         bestSpeedAfterTheGlow();
+        bestSpeedOfAll();
+        bestSpeedOfWhatStays();
         meetings();
         questionsChangeNothing();
         CHECK.end();
@@ -61,6 +64,29 @@ public final class QuestionsTest {
         CHECK.due("broken lights are no load", x.ticksAround(), 29);
         x.setSecondArm(1);
         CHECK.due("the second arm is", x.ticksAround(), 66);
+    }
+
+    /** Promise 21: 500 ticks, and one more. */
+    private static void ticksAroundAtTheEdge() {
+        LightWheel x = new LightWheel();
+        x.set(0, 45);
+        x.run(7);
+        x.set(1, 4);
+        x.set(0, 1);
+        // 41, 37 .. 5, 1 make 231 in 11 ticks, and 489 follow.
+        CHECK.due("500 ticks", x.ticksAround(), 500);
+        LightWheel y = new LightWheel();
+        y.set(1, 20);
+        y.set(0, 44);
+        y.run(2);
+        y.set(1, 4);
+        y.set(0, 1);
+        y.set(2, 17);
+        y.addPicture(1);
+        y.paint(0, 0, 0, 1);
+        y.setPlace(0, y.count(1) + 40 + 36 + 32 + 28 + 24 + 1, 18);
+        // 40 .. 20 make 180; the load of the sixth tick lets 18, 14 .. 2 follow, 50; 489 make 719.
+        CHECK.due("501 ticks", y.ticksAround(), NONE);
     }
 
     /** Promise 22. */
@@ -182,6 +208,63 @@ public final class QuestionsTest {
         x.setPlace(0, 5, 18);
         // Wanted are 5 to 22, the bar stands at 10; 20 forward writes 12 of them, 20 backward 5.
         CHECK.due("forward", x.bestSpeed(1), 20);
+    }
+
+    /** Promise 23: the speeds that are tried. */
+    private static void bestSpeedOfAll() {
+        LightWheel x = full();
+        x.set(1, 20);
+        x.set(3, 1);
+        x.setKind(1, 2);
+        // Wanted are the angles 0 to 359. Behind 4 ticks only the last one glows: the faster, the more is lit.
+        CHECK.due("the fastest forward", x.bestSpeed(4), 60);
+        // Behind 7 ticks the bar with 60 is at 30 + 50 + 5 * 60 = 380: 39 angles; 50 is at 330: 50 angles.
+        CHECK.due("too far with 60", x.bestSpeed(7), 50);
+        x.setKind(1, 0);
+        x.setKind(0, 2);
+        // Wanted are 360 to 719: -60 begins with -10, -30, -50.
+        CHECK.due("the fastest backward", x.bestSpeed(4), -60);
+        x.setKind(0, 0);
+        x.set(3, 99);
+        // Behind 40 ticks all speeds that go around have all written; -60 is the smallest one.
+        CHECK.due("bestSpeed(40)", x.bestSpeed(40), -60);
+        x.set(2, 1);
+        x.set(1, 1);
+        // The first tick makes 9, 10 or 11 of 10; then the load holds the speed: 440 angles at the most.
+        CHECK.due("under load", x.bestSpeed(40), 20);
+        x.setSecondArm(1);
+        // With both arms 10 needs 36 ticks for all angles, but 9 needs 40.
+        CHECK.due("both arms", x.bestSpeed(40), -60);
+        CHECK.due("both arms, 39 ticks", x.bestSpeed(39), 10);
+    }
+
+    /** Promise 23: lit places that stay, and written ones that go dark. */
+    private static void bestSpeedOfWhatStays() {
+        LightWheel x = new LightWheel();
+        x.addPicture(1);
+        x.paint(0, 0, 0, 1);
+        x.setPlace(0, 0, 18);
+        x.set(1, 20);
+        x.run(1);
+        x.set(3, 2);
+        // Lit are 1 to 10, and wanted is 0 to 17; the bar stands at 10 with speed 10.
+        CHECK.due("what is lit stays, 10 adds the rest", x.bestSpeed(1), 10);
+        // Forward 11 to 17 glow, but no more 1 to 10; backward, with -10 and -30, 0 to 9 do.
+        CHECK.due("what is lit goes dark", x.bestSpeed(2), -60);
+        x.set(3, 3);
+        // Now 1 to 10 stay too.
+        CHECK.due("what is lit stays for two ticks", x.bestSpeed(2), 10);
+        x.setKind(0, 2);
+        x.set(3, 99);
+        x.set(0, 10);
+        // Wanted is dark: only what is written anew goes dark, and backward it is.
+        CHECK.due("written dark", x.bestSpeed(2), -60);
+        x.setSecondArm(1);
+        x.setBroken(0, 0, 1);
+        // Only the second arm has the light; it gets to the angles 1 to 10 in half a circle.
+        CHECK.due("written dark by the second arm, backward or forward", x.bestSpeed(9), -60);
+        x.setBroken(1, 0, 1);
+        CHECK.due("nothing writes there", x.bestSpeed(40), -60);
     }
 
     /** Promise 24. */
