@@ -43,8 +43,7 @@ public final class LightWheel {
     private int textLength = 0;
     private final Reader reader = new Reader();
     private final Sweep sweep = new Sweep();
-    // For bestSpeed: the lights of each angle whose wanted color is dark, and those that come right if left alone.
-    private final long[] wantedDark = new long[CIRCLE];
+    // For bestSpeed: the lights of each angle that have the wanted color behind the ticks if nothing is written there.
     private final long[] rightAlone = new long[CIRCLE];
 
     public LightWheel() {
@@ -339,9 +338,7 @@ public final class LightWheel {
         }
         sweep.prepare(now);
         for (int angle = 0; angle < CIRCLE; angle++) {
-            long wanted = sweep.wanted[angle];
-            wantedDark[angle] = ALL_LIGHTS & ~notDark(wanted);
-            rightAlone[angle] = ALL_LIGHTS & ~notDark(now.litAt(angle, ticks) ^ wanted);
+            rightAlone[angle] = ALL_LIGHTS & ~notDark(now.litAt(angle, ticks) ^ sweep.wanted[angle]);
         }
         int best = LOWEST[WANTED_SPEED];
         int most = -1;
@@ -370,18 +367,17 @@ public final class LightWheel {
         return places;
     }
 
-    /** How many places have the wanted color behind the ticks that the sweep has gone. */
+    /**
+     * How many places have the wanted color behind the ticks that the sweep has gone. What the sweep wrote and
+     * still glows has it. All else is as if left alone: where the sweep's color is dark again, an older one is too.
+     */
     private int countRight(int ticks) {
         int stale = Math.max(0, ticks - now.settings[GLOW]);
         int right = 0;
         for (int angle = 0; angle < CIRCLE; angle++) {
-            int first = sweep.firstArmAt(angle);
-            int second = sweep.secondArmAt(angle);
-            long written = (first > 0 ? now.working[0] : 0L) | (second > 0 ? now.working[1] : 0L);
-            long fresh = (first > stale ? now.working[0] : 0L) | (second > stale ? now.working[1] : 0L);
-            // What glows is as wanted; what the ticks wrote and has gone out again is dark.
-            long rightHere = fresh | (written & ~fresh & wantedDark[angle]) | (~written & rightAlone[angle]);
-            right += Long.bitCount(rightHere);
+            long byFirst = sweep.firstArmAt(angle) > stale ? now.working[0] : 0L;
+            long bySecond = sweep.secondArmAt(angle) > stale ? now.working[1] : 0L;
+            right += Long.bitCount(byFirst | bySecond | rightAlone[angle]);
         }
         return right;
     }
@@ -558,14 +554,14 @@ public final class LightWheel {
         // By the angle of the bar: the colors not dark that all arms write, and the sweep's last tick there, 0 if none.
         final int[] loadAt = new int[CIRCLE];
         final int[] passedIn = new int[CIRCLE];
-        boolean secondArm = false;
-        int power = 1;
-        int limit = 1;
-        int wantedSpeed = 0;
-        int angle = 0;
-        int speed = 0;
-        int load = 0;
-        int ticks = 0;
+        boolean secondArm;
+        int power;
+        int limit;
+        int wantedSpeed;
+        int angle;
+        int speed;
+        int load;
+        int ticks;
 
         /** Takes from the state what is the same for every wanted speed. */
         void prepare(State state) {
@@ -641,11 +637,11 @@ public final class LightWheel {
         private static final int PART_COLOR = 4;
 
         final long[] columns = new long[MOST_COLUMNS];
-        int columnCount = 1;
-        private int awaited = PART;
-        private int told = 0;
-        private int number = 0;
-        private int numberStart = 0;
+        int columnCount;
+        private int awaited;
+        private int told;
+        private int number;
+        private int numberStart;
 
         /** Returns the error position, or -1 if the text has no error. */
         int read(char[] text, int length) {

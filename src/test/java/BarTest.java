@@ -11,6 +11,7 @@ public final class BarTest {
         set();
         runWrites();
         runChangesTheSpeed();
+        runSlowly();
         runBackward();
         loadSlowsTheMotor();
         writesDarkToo();
@@ -37,7 +38,7 @@ public final class BarTest {
 
     /** Promises 9 and 12. */
     private static void secondArmWrites() {
-        LightWheel x = full(1);
+        LightWheel x = Check.fullWheel(1);
         CHECK.due("the first arm alone", x.run(1), 120);
         CHECK.due("place(365, 3, 2)", x.place(365, 3, 2), LightWheel.NONE);
         x.setSecondArm(1);
@@ -75,7 +76,7 @@ public final class BarTest {
 
     /** Promises 10 and 12. */
     private static void brokenLightsDoNotWrite() {
-        LightWheel x = full(1);
+        LightWheel x = Check.fullWheel(1);
         x.setSecondArm(1);
         x.setBroken(0, 0, 1);
         x.setBroken(1, 11, 1);
@@ -124,7 +125,7 @@ public final class BarTest {
         CHECK.due("states", empty.count(8), 0);
         CHECK.due("run(100)", empty.run(100), 0);
         CHECK.due("one action", empty.count(8), 1);
-        LightWheel x = full(5);
+        LightWheel x = Check.fullWheel(5);
         CHECK.due("run(2)", x.run(2), 120);
         CHECK.due("angle", x.count(1), 20);
         CHECK.due("ticks", x.count(3), 2);
@@ -174,8 +175,26 @@ public final class BarTest {
     }
 
     /** Promise 12. */
+    private static void runSlowly() {
+        LightWheel x = new LightWheel();
+        x.set(1, 20);
+        x.set(0, 1);
+        x.run(1);
+        CHECK.due("speed 1", x.count(2), 1);
+        CHECK.due("angle", x.count(1), 1);
+        CHECK.due("place(1, 0, 2)", x.place(1, 0, 2), 0);
+        CHECK.due("place(2, 0, 2)", x.place(2, 0, 2), LightWheel.NONE);
+        x.set(0, -1);
+        x.run(2);
+        CHECK.due("speed -1", x.count(2), -1);
+        CHECK.due("angle", x.count(1), 719);
+        CHECK.due("place(0, 0, 2)", x.place(0, 0, 2), 1);
+        CHECK.due("place(719, 0, 2)", x.place(719, 0, 2), 0);
+    }
+
+    /** Promise 12. */
     private static void runBackward() {
-        LightWheel x = full(2);
+        LightWheel x = Check.fullWheel(2);
         x.set(1, 20);
         x.set(0, -3);
         x.run(1);
@@ -194,7 +213,7 @@ public final class BarTest {
 
     /** Promise 12. */
     private static void loadSlowsTheMotor() {
-        LightWheel x = full(7);
+        LightWheel x = Check.fullWheel(7);
         x.set(2, 120);
         x.set(1, 3);
         x.set(0, 60);
@@ -324,7 +343,7 @@ public final class BarTest {
 
     /** Promise 13. */
     private static void undoRestoresEachThing() {
-        LightWheel x = full(3);
+        LightWheel x = Check.fullWheel(3);
         x.run(3);
         x.setPlace(1, 7, 2);
         x.undo();
@@ -371,17 +390,5 @@ public final class BarTest {
         x.undo();
         CHECK.due("the next tick goes on as if nothing had been", x.run(1), 120);
         CHECK.due("angle", x.count(1), 40);
-    }
-
-    /** A wheel with two pictures, half a circle each, that want one color everywhere. */
-    private static LightWheel full(int color) {
-        LightWheel x = new LightWheel();
-        for (int picture = 0; picture < 2; picture++) {
-            x.addPicture(1);
-            Check.type(x, ("(12)" + color + ";").repeat(19) + "(12)" + color);
-            x.load(picture);
-            x.setPlace(picture, picture * 360, 18);
-        }
-        return x;
     }
 }

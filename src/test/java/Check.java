@@ -37,4 +37,16 @@ final class Check {
             wheel.append(text.charAt(i));
         }
     }
+
+    /** A wheel with two pictures, half a circle each, that want one color everywhere. */
+    static LightWheel fullWheel(int color) {
+        LightWheel wheel = new LightWheel();
+        for (int picture = 0; picture < 2; picture++) {
+            wheel.addPicture(1);
+            type(wheel, ("(12)" + color + ";").repeat(19) + "(12)" + color);
+            wheel.load(picture);
+            wheel.setPlace(picture, picture * 360, 18);
+        }
+        return wheel;
+    }
 }

@@ -66,7 +66,7 @@ public final class LookingTest {
         y.addPicture(1);
         y.paint(0, 0, 0, 1);
         y.setPlace(0, 0, 1);
-        y.run(72);
+        CHECK.due("the load at the angle 0", y.run(72), 1);
         CHECK.due("count(5): the angle 0 alone", y.count(5), 1);
         CHECK.due("count(6): the angle 0 alone", y.count(6), 0);
         y.set(3, 1);

@@ -66,7 +66,8 @@ public final class ModelTest {
         int calls = 0;
         for (int picture = 0; picture < pictures; picture++) {
             same("addPicture(1)", wheel.addPicture(1), plain.addPicture(1));
-            calls += 3 + type("(12)" + random.nextInt(8) + ";0" + random.nextInt(8) + ";(" + (1 + random.nextInt(12)) + ")3");
+            int lights = 1 + random.nextInt(12);
+            calls += 3 + type("(12)" + random.nextInt(8) + ";0" + random.nextInt(8) + ";(" + lights + ")3");
             same("load(" + picture + ")", wheel.load(picture), plain.load(picture));
             int first = random.nextInt(720);
             same("setPlace", wheel.setPlace(picture, first, 18), plain.setPlace(picture, first, 18));

@@ -14,6 +14,7 @@ public final class PicturesTest {
         loadTakesOver();
         loadReadsParts();
         loadTellsErrors();
+        loadBeginsAnew();
         CHECK.end();
     }
 
@@ -275,6 +276,18 @@ public final class PicturesTest {
         errorAt(";".repeat(39) + "1 ;8", 41);
         errorAt(";".repeat(39) + "8;", 39);
         errorAt("1" + (char) 160, 1);
+    }
+
+    /** Promise 8: a text that breaks off leaves no trace in the reading of the next one. */
+    private static void loadBeginsAnew() {
+        LightWheel x = new LightWheel();
+        x.addPicture(1);
+        for (String broken : new String[] {"77;7(", "7(1", "7(1 ", "77(3)", "(1x", "7777777777777"}) {
+            x.clearText();
+            Check.type(x, broken);
+            CHECK.holds(broken + " is wrong", x.load(0) < -1000);
+            colorsOf(x, "12", "120000000000");
+        }
     }
 
     private static void errorAt(String text, int position) {

@@ -50,7 +50,7 @@ public final class QuestionsTest {
 
     /** Promise 21: the load of the ticks to come slows the motor. */
     private static void ticksAroundUnderLoad() {
-        LightWheel x = full();
+        LightWheel x = Check.fullWheel(1);
         x.set(0, 60);
         x.set(1, 1);
         // 11 + 12 .. + 38 = 686, + 39 = 725.
@@ -126,7 +126,7 @@ public final class QuestionsTest {
 
     /** Promise 22: the load of the ticks to come slows the motor. */
     private static void gapsUnderLoad() {
-        LightWheel x = full();
+        LightWheel x = Check.fullWheel(1);
         x.set(0, 60);
         x.set(1, 1);
         CHECK.due("11 + 12 + 13", x.gaps(3), 720 - 36);
@@ -180,8 +180,17 @@ public final class QuestionsTest {
         x.setBroken(1, 0, 1);
         CHECK.due("its light is broken", x.bestSpeed(1), -60);
         x.setPlace(0, 2, 3);
+        CHECK.due("that of the first arm is not", x.bestSpeed(1), 10);
         x.setBroken(0, 0, 1);
         CHECK.due("the light of the first arm is broken", x.bestSpeed(1), -60);
+        LightWheel y = new LightWheel();
+        y.addPicture(1);
+        y.paint(0, 0, 11, 1);
+        y.set(0, 10);
+        y.run(71);
+        y.setPlace(0, 0, 1);
+        // The bar is at 710: the angle 0 is written with speed 10 or more.
+        CHECK.due("the angle 0 alone", y.bestSpeed(1), 10);
     }
 
     /** Promise 23: what was lit is to go dark, or to stay. */
@@ -212,7 +221,7 @@ public final class QuestionsTest {
 
     /** Promise 23: the speeds that are tried. */
     private static void bestSpeedOfAll() {
-        LightWheel x = full();
+        LightWheel x = Check.fullWheel(1);
         x.set(1, 20);
         x.set(3, 1);
         x.setKind(1, 2);
@@ -296,7 +305,7 @@ public final class QuestionsTest {
     }
 
     private static void questionsChangeNothing() {
-        LightWheel x = full();
+        LightWheel x = Check.fullWheel(1);
         x.set(0, 30);
         x.run(2);
         x.setSecondArm(1);
@@ -314,17 +323,5 @@ public final class QuestionsTest {
             x.bestSpeed(40);
             x.meetings(0, 1);
         }
-    }
-
-    /** A wheel with two pictures, half a circle each, that want one color everywhere. */
-    private static LightWheel full() {
-        LightWheel x = new LightWheel();
-        for (int picture = 0; picture < 2; picture++) {
-            x.addPicture(1);
-            Check.type(x, "(12)1;".repeat(19) + "(12)1");
-            x.load(picture);
-            x.setPlace(picture, picture * 360, 18);
-        }
-        return x;
     }
 }
