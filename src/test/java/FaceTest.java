@@ -29,7 +29,10 @@ public final class FaceTest {
     public static void main(String[] args) throws IOException {
         constants();
         members();
+        classesInside();
         source();
+        library();
+        methodLengths();
         CHECK.end();
     }
 
@@ -78,10 +81,76 @@ public final class FaceTest {
         return true;
     }
 
-    private static void source() throws IOException {
+    /** Rules 1, 2, 5 and 11 for all classes of the file. */
+    private static void classesInside() {
+        Class<?>[] inside = LightWheel.class.getDeclaredClasses();
+        CHECK.holds("at most twelve classes", inside.length < 12);
+        wellFormed(LightWheel.class);
+        for (Class<?> type : inside) {
+            int modifiers = type.getModifiers();
+            CHECK.holds(type + " is static", Modifier.isStatic(modifiers));
+            CHECK.holds(type + " is not seen outside", !Modifier.isPublic(modifiers)
+                    && !Modifier.isProtected(modifiers));
+            CHECK.due(type + " has no classes inside", type.getDeclaredClasses().length, 0);
+            wellFormed(type);
+        }
+        CHECK.holds("no anonymous class", LightWheel.class.getResource("LightWheel$1.class") == null);
+    }
+
+    private static void wellFormed(Class<?> type) {
+        int fields = 0;
+        for (Field field : type.getDeclaredFields()) {
+            if (Modifier.isStatic(field.getModifiers())) {
+                CHECK.holds(field + " is final", Modifier.isFinal(field.getModifiers()));
+            } else {
+                fields++;
+            }
+        }
+        CHECK.holds(type + " has at most twenty fields", fields <= 20);
+        for (Method method : type.getDeclaredMethods()) {
+            CHECK.holds(method + " takes at most seven parameters", method.getParameterCount() <= 7);
+            boolean publicName = METHODS.stream().anyMatch(face -> face.startsWith(method.getName() + "/"));
+            CHECK.holds(method + " bears no public name", type == LightWheel.class
+                    && Modifier.isPublic(method.getModifiers()) || !publicName);
+        }
+    }
+
+    private static String readCode() throws IOException {
         byte[] bytes = Files.readAllBytes(Path.of("src/main/java/LightWheel.java"));
-        String code = new String(bytes, StandardCharsets.ISO_8859_1)
+        return new String(bytes, StandardCharsets.ISO_8859_1)
                 .replaceAll("(?s)/\\*.*?\\*/", " ").replaceAll("//[^\n]*", " ");
+    }
+
+    /** Rule 4: the library that is used. */
+    private static void library() throws IOException {
+        Set<String> allowed = Set.of("Math.min", "Math.max", "Math.abs", "Math.floorMod", "Math.floorDiv",
+                "Long.bitCount", "Integer.bitCount", "System.arraycopy", "Arrays.fill");
+        Matcher used = Pattern.compile("\\b([A-Z][a-z]\\w*\\.\\w+)").matcher(readCode());
+        while (used.find()) {
+            CHECK.holds(used.group(1) + " is allowed", allowed.contains(used.group(1)));
+        }
+        byte[] bytes = Files.readAllBytes(Path.of("src/main/java/LightWheel.java"));
+        for (byte b : bytes) {
+            if (b != '\n' && (b < 32 || b > 126)) {
+                CHECK.holds("the sign " + b + " is allowed", false);
+            }
+        }
+    }
+
+    /** Rule 11: "Methods stay short (some sixty lines)" */
+    private static void methodLengths() throws IOException {
+        Matcher body = Pattern.compile("(?m)^( {4,8})[^ \n][^;\n]*\\) \\{$(?:\n.*)*?\n\\1\\}$").matcher(readCode());
+        int methods = 0;
+        while (body.find()) {
+            methods++;
+            String[] lines = body.group().split("\n");
+            CHECK.holds("at most sixty lines: " + lines[0].trim(), lines.length <= 60);
+        }
+        CHECK.holds("the methods are found: " + methods, methods > 50);
+    }
+
+    private static void source() throws IOException {
+        String code = readCode();
         for (String word : FORBIDDEN) {
             Matcher found = Pattern.compile("\\b" + Pattern.quote(word) + "\\b").matcher(code);
             CHECK.holds("the program does without " + word, !found.find());

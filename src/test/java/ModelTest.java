@@ -4,6 +4,8 @@ import java.util.Random;
 public final class ModelTest {
     private static final Check CHECK = new Check();
     private static final int CALLS = 512;
+    // A text of up to 7 pieces of up to 8 characters, and two calls.
+    private static final int LONGEST_STEP = 60;
     private static final int[] ODD = {Integer.MIN_VALUE, -1000, -1, 41, 160, 720, 10000, Integer.MAX_VALUE};
 
     private final Random random;
@@ -31,7 +33,7 @@ public final class ModelTest {
         if (seed % 2 == 0) {
             calls += prepare();
         }
-        while (calls < CALLS - 20 && CHECK.wrong() == 0) {
+        while (calls < CALLS - LONGEST_STEP && CHECK.wrong() == 0) {
             calls += step(oddness);
         }
         while (calls < CALLS) {

@@ -33,13 +33,16 @@ public final class PicturesTest {
             CHECK.due("new: broken(0, " + light + ")", x.broken(0, light), 0);
             CHECK.due("new: broken(1, " + light + ")", x.broken(1, light), 0);
         }
-        for (int angle = 0; angle < 720; angle++) {
-            CHECK.due("new: place(" + angle + ", 0, 0)", x.place(angle, 0, 0), 0);
-            CHECK.due("new: place(" + angle + ", 11, 1)", x.place(angle, 11, 1), 0);
-            CHECK.due("new: place(" + angle + ", 5, 2)", x.place(angle, 5, 2), LightWheel.NONE);
-        }
         CHECK.due("new: picture(0, 0)", x.picture(0, 0), WRONG);
         CHECK.due("new: undo()", x.undo(), LightWheel.ILLEGAL_STATE);
+        for (int angle = 0; angle < 720; angle++) {
+            LightWheel y = new LightWheel();
+            for (int light = 0; light < 12; light++) {
+                CHECK.due("new: place(" + angle + ", " + light + ", 0)", y.place(angle, light, 0), 0);
+                CHECK.due("new: place(" + angle + ", " + light + ", 1)", y.place(angle, light, 1), 0);
+                CHECK.due("new: place(" + angle + ", " + light + ", 2)", y.place(angle, light, 2), LightWheel.NONE);
+            }
+        }
     }
 
     /** Promise 2. */

@@ -8,14 +8,18 @@ public final class QuestionsTest {
         ticksAround();
         ticksAroundUnderLoad();
         ticksAroundAtTheEdge();
+        ticksAroundJustOrOneStepShort();
         gaps();
         gapsUnderLoad();
+        gapsAtTheEdges();
         bestSpeed();
         bestSpeedOfSeveral();
         bestSpeedAfterTheGlow();
         bestSpeedOfAll();
         bestSpeedOfWhatStays();
+        bestSpeedIsAMultipleOfTen();
         meetings();
+        meetingsAtTheEdges();
         questionsChangeNothing();
         CHECK.end();
     }
@@ -89,6 +93,32 @@ public final class QuestionsTest {
         CHECK.due("501 ticks", y.ticksAround(), NONE);
     }
 
+    /** Promise 21: "720 or more". */
+    private static void ticksAroundJustOrOneStepShort() {
+        LightWheel x = new LightWheel();
+        x.set(0, 12);
+        x.set(1, 2);
+        CHECK.due("60 ticks with 12 make 720", x.ticksAround(), 60);
+        x.set(1, 1);
+        CHECK.due("11 and 59 with 12 make 719", x.ticksAround(), 61);
+        x.set(1, 20);
+        x.set(0, -12);
+        // -10, then -12 each.
+        CHECK.due("10 and 60 with 12, backward", x.ticksAround(), 61);
+        x.run(1);
+        CHECK.due("60 ticks with 12, backward", x.ticksAround(), 60);
+        LightWheel y = new LightWheel();
+        y.set(1, 20);
+        y.set(0, 60);
+        y.run(4);
+        CHECK.due("as fast as can be", y.ticksAround(), 12);
+        y.set(0, 0);
+        CHECK.due("40, 20, and no further", y.ticksAround(), NONE);
+        y.set(1, 2);
+        // 58, 56 .. 34 make 598 in 13 ticks, and 32, 30, 28 make 688, and 26 makes 714.
+        CHECK.due("slower and slower, but around", y.ticksAround(), 18);
+    }
+
     /** Promise 22. */
     private static void gaps() {
         LightWheel x = new LightWheel();
@@ -136,6 +166,42 @@ public final class QuestionsTest {
         CHECK.due("the last load is behind", x.gaps(1), 720 - 11);
         x.set(2, 9999);
         CHECK.due("the limit as it is now", x.gaps(1), 720 - 12);
+    }
+
+    /** Promise 22: each arm's first and last angle, and the whole circle. */
+    private static void gapsAtTheEdges() {
+        LightWheel x = new LightWheel();
+        x.addPicture(1);
+        int[][] angles = {{0, 1, 1}, {1, 0, 0}, {10, 0, 0}, {11, 1, 1}, {360, 1, 1}, {361, 1, 0}, {370, 1, 0},
+            {371, 1, 1}, {719, 1, 1}};
+        for (int[] a : angles) {
+            x.setSecondArm(0);
+            x.setPlace(0, a[0], 1);
+            CHECK.due("one arm, one tick: the angle " + a[0], x.gaps(1), a[1]);
+            CHECK.due("no tick", x.gaps(0), 1);
+            x.setSecondArm(1);
+            CHECK.due("both arms, one tick: the angle " + a[0], x.gaps(1), a[2]);
+            CHECK.due("no tick", x.gaps(0), 1);
+        }
+        LightWheel y = Check.fullWheel(0);
+        CHECK.due("dark pictures cover too", y.gaps(0), 720);
+        CHECK.due("all but ten angles", y.gaps(1), 710);
+        y.set(0, 1);
+        y.set(1, 20);
+        CHECK.due("200 ticks with the speed 1", y.gaps(200), 520);
+        CHECK.due("199 ticks", y.gaps(199), 521);
+        y.setSecondArm(1);
+        CHECK.due("200 ticks, both arms", y.gaps(200), 320);
+        y.run(100);
+        CHECK.due("what has been written does not matter", y.gaps(0), 720);
+        y.set(0, 0);
+        CHECK.due("a bar that stands", y.gaps(200), 720);
+        y.setKind(0, 2);
+        CHECK.due("one picture is off", y.gaps(0), 360);
+        y.setKind(1, 2);
+        CHECK.due("both are off", y.gaps(0), 0);
+        y.setKind(1, 1);
+        CHECK.due("one is mirrored", y.gaps(0), 360);
     }
 
     /** Promise 23. */
@@ -276,6 +342,44 @@ public final class QuestionsTest {
         CHECK.due("nothing writes there", x.bestSpeed(40), -60);
     }
 
+    /** Promise 23: "of all multiples of 10 from -60 to 60"; "if it was set now" */
+    private static void bestSpeedIsAMultipleOfTen() {
+        for (int wanted = -60; wanted <= 60; wanted += 15) {
+            LightWheel x = Check.fullWheel(1);
+            x.set(1, 20);
+            x.set(3, 1);
+            x.set(0, wanted);
+            // Wanted are the angles 1 to 10: the speed 10 writes all of them, and 20 and 30 no more.
+            x.setPlace(0, 1, 1);
+            Check.type(x, ("(12)1;").repeat(9) + "(12)1");
+            x.load(0);
+            x.setKind(1, 2);
+            CHECK.due("the first of several, whatever was wanted: " + wanted, x.bestSpeed(1), 10);
+            CHECK.due("it is not set", x.setting(0), wanted);
+        }
+        for (int speed = -10; speed <= 30; speed += 10) {
+            LightWheel x = new LightWheel();
+            x.addPicture(1);
+            x.paint(0, 0, 0, 1);
+            x.set(1, 20);
+            // Only a bar that goes as far as that in its one tick writes the one angle that is wanted.
+            x.setPlace(0, Math.floorMod(speed, 720), 1);
+            CHECK.due("the angle " + speed, x.bestSpeed(1), speed <= 0 ? -60 : speed);
+        }
+        for (int ticks = 4; ticks <= 6; ticks++) {
+            int[] fastest = {0, 0, 0, 0, 160, 220, 280};
+            LightWheel x = new LightWheel();
+            x.addPicture(1);
+            x.paint(0, 0, 0, 1);
+            x.set(1, 20);
+            // 30, 50, 60, 60 .. make 200, 260 and 320; with 50 it is 30, 50, 50, 50 .., 180, 230 and 280.
+            x.setPlace(0, fastest[ticks] + 40, 1);
+            CHECK.due("60 alone comes there in " + ticks + " ticks", x.bestSpeed(ticks), 60);
+            x.setPlace(0, fastest[ticks] + 41, 1);
+            CHECK.due("none comes there in " + ticks + " ticks", x.bestSpeed(ticks), -60);
+        }
+    }
+
     /** Promise 24. */
     private static void meetings() {
         LightWheel x = new LightWheel();
@@ -302,6 +406,46 @@ public final class QuestionsTest {
         x.setKind(1, 2);
         CHECK.due("one is off", x.meetings(0, 1), 0);
         CHECK.due("one is off", x.meetings(1, 0), 0);
+    }
+
+    /** Promise 24: by one angle, by no angle, all around the circle. */
+    private static void meetingsAtTheEdges() {
+        LightWheel x = new LightWheel();
+        for (int p = 0; p < 2; p++) {
+            x.addPicture(2);
+            x.paint(p, 0, p, 1 + p);
+            x.paint(p, 1, 1 - p, 1 + p);
+            x.paint(p, 0, 11, 1);
+            x.paint(p, 1, 11, 7);
+        }
+        // Each picture has its light p in the first column, the other's light in the second one, and light 11.
+        int[][] places = {{0, 0, 12}, {0, 11, 1 + 1}, {0, 12, 0}, {11, 0, 1 + 1}, {12, 0, 0}, {714, 5, 1 + 1},
+            {714, 6, 0}, {5, 714, 1 + 1}, {6, 714, 0}, {0, 6, 6 + 6}, {6, 0, 6 + 6}, {0, 360, 0}};
+        for (int[] p : places) {
+            x.setPlace(0, p[0], 6);
+            x.setPlace(1, p[1], 6);
+            CHECK.due("from " + p[0] + " and from " + p[1], x.meetings(0, 1), p[2]);
+            CHECK.due("from " + p[1] + " and from " + p[0], x.meetings(1, 0), p[2]);
+        }
+        LightWheel y = new LightWheel();
+        for (int p = 0; p < 2; p++) {
+            y.addPicture(1);
+            Check.type(y, "7".repeat(12) + ";0".repeat(39));
+            y.load(p);
+            y.setPlace(p, 18 * p, 18);
+        }
+        CHECK.due("all around, but where one is not dark the other is", y.meetings(0, 1), 0);
+        y.setPlace(1, 17, 18);
+        CHECK.due("one angle, all lights", y.meetings(0, 1), 12);
+        y.setPlace(1, 705, 18);
+        CHECK.due("three angles, all lights", y.meetings(0, 1), 36);
+        y.setKind(0, 1);
+        CHECK.due("mirrored, the bright column is the last one", y.meetings(0, 1), 12 * 15);
+        y.setKind(0, 2);
+        CHECK.due("the first one is off", y.meetings(0, 1), 0);
+        y.setKind(0, 0);
+        y.setKind(1, 2);
+        CHECK.due("the second one is off", y.meetings(0, 1), 0);
     }
 
     private static void questionsChangeNothing() {
